@@ -18,11 +18,13 @@ public final class FairHouse {
     private int latestPlace;
 
     public FairHouse() {
-        tape = new byte[TAPE_MOST];
-        fair = new Fair();
-        Code code = new Code(fair);
-        reader = new FairReader(tape, fair, code);
-        runner = new Runner(fair, code);
+        byte[] bytes = new byte[TAPE_MOST];
+        Fair made = new Fair();
+        Code code = new Code(made);
+        tape = bytes;
+        fair = made;
+        reader = new FairReader(bytes, made, code);
+        runner = new Runner(made, code);
         tapeBytes = 0;
         standing = false;
         latestFault = 0;
@@ -263,18 +265,10 @@ public final class FairHouse {
         static final int GUARD = 316;
         static final int LEAVE = 317;
         static final int STOP = 318;
-        // Both a STEP and a MEASURE, so it stands between these.
+        // Begins a STEP and is a MEASURE, so it stands between those words.
         static final int GLOW = 319;
         static final int R0 = 320;
         static final int R3 = 323;
-        static final int WHY = 324;
-        static final int CLOCK = 325;
-        static final int WIND = 326;
-        static final int QUEUE = 327;
-        static final int SPEED = 328;
-        static final int HEIGHT = 329;
-        static final int ABOARD = 330;
-        static final int VOLUME = 331;
         static final int WEAR = 332;
         static final int POWER = 333;
         static final int STAFF = 334;
@@ -289,6 +283,7 @@ public final class FairHouse {
         static final int OR = 350;
         static final int NOT = 351;
 
+        // The words that are there from the start, in the order of their sorts, each with blanks to this width.
         private static final int WIDTH = 7;
         private static final String STEP_WORDS =
                 "spin   lift   sound  load   unload mend   wait   until  claim  free   raise  lower  repeat loop   if     guard  leave  stop   glow   ";
@@ -594,7 +589,7 @@ public final class FairHouse {
         static final int SAME = 17;
         static final int DIFFERENT = 18;
 
-        // What an operand asks for; a RIDE's own registers are 0 to 3.
+        // What an operand asks for, in the order of the words of a FACTOR (the registers are 0 to 3), then GLOW.
         static final int WHY = 4;
         static final int CLOCK = 5;
         static final int WIND = 6;
@@ -680,7 +675,7 @@ public final class FairHouse {
                 } else if (work <= OR) {
                     int last = pop();
                     // What stands behind is not asked once this ONE decides.
-                    if (last != 0 == (work == OR)) {
+                    if ((last != 0) == (work == OR)) {
                         push(last);
                         going = false;
                     }
@@ -966,11 +961,13 @@ public final class FairHouse {
         private int steps;
 
         FairReader(byte[] tape, Fair fair, Code code) {
+            Text made = new Text(tape);
+            Names none = new Names(made);
             this.fair = fair;
             this.code = code;
-            text = new Text(tape);
-            names = new Names(text);
-            formulas = new FormulaReader(text, names, code);
+            text = made;
+            names = none;
+            formulas = new FormulaReader(made, none, code);
             powerTold = false;
             steps = 0;
         }
