@@ -21,6 +21,10 @@ public final class Part2TextTest {
         ends();
         severalAtOneWord();
         longTexts();
+        longNames();
+        allNames();
+        readsAgain();
+        deepInEitherBlock();
         Check.end();
     }
 
@@ -549,5 +553,93 @@ public final class Part2TextTest {
         third.tick(1);
         Check.due("product", third.script(0, 4), 0);
         Check.faults(3, "ride a arch 1{r0=" + Check.repeat("a.glow*", 560) + "@b.glow;}");
+    }
+
+    private static void longNames() {
+        String told = "staff guide 2;staff guides 3;staff gside 4;flag night;flag light;flag nighty;ride wheels arch 1{}"
+                + "ride wheelx arch 1{}ride whee organ 1 1{}";
+        FairHouse house = Check.fair(told + "ride last tail 1 1 1 whee{claim guides;claim gside;raise light;r0=wheelx.glow;"
+                + "r1=last.wear;until not up nighty;}");
+        house.tick(1);
+        Check.due("staff", house.free(0) + " " + house.free(1) + " " + house.free(2), "2 2 3");
+        Check.due("flags", house.isUp(0) + " " + house.isUp(1) + " " + house.isUp(2), "false true false");
+        for (String name : new String[] {"guide", "guides", "gside", "night", "nighty", "wheels", "wheelx", "whee"}) {
+            Check.faults(2, told + "flag @" + name + ";");
+            Check.faults(2, told + "staff @" + name + " 1;");
+            Check.faults(2, told + "ride @" + name + " arch 1{}");
+        }
+        for (String name : new String[] {"guid", "guidex", "xuide", "ght", "wheely", "whe", "hee"}) {
+            Check.fair(told + "flag " + name + ";");
+            Check.faults(3, told + "ride z arch 1{claim @" + name + ";}");
+            Check.faults(3, told + "ride z arch 1{raise @" + name + ";}");
+            Check.faults(3, told + "ride z arch 1{r0=@" + name + ".glow;}");
+            Check.faults(3, told + "ride z tail 1 1 1 @" + name + "{}");
+        }
+    }
+
+    /** Twelve RIDES, six staff and eight flags: the last NAME of each is known as the first is. */
+    private static void allNames() {
+        StringBuilder text = new StringBuilder();
+        for (int i = 0; i < 12; i++) {
+            text.append("ride x").append(i).append(" ghost 1 1{glow ").append(i + 1)
+                    .append(";wait 1;r0=x11.glow;r1=x0.glow;r2=x").append(11 - i).append(".glow;}");
+        }
+        FairHouse house = Check.fair(text.toString());
+        house.tick(2);
+        for (int i = 0; i < 12; i++) {
+            Check.due("registers of " + i, Check.registers(house, i), "12 1 " + (12 - i) + " 0");
+        }
+        StringBuilder names = new StringBuilder();
+        for (int i = 0; i < 11; i++) {
+            names.append("ride x").append(i).append(" arch 1{}");
+        }
+        for (int i = 0; i < 6; i++) {
+            names.append("staff s").append(i).append(" 9;");
+        }
+        for (int i = 0; i < 8; i++) {
+            names.append("flag f").append(i).append(";");
+        }
+        FairHouse last = Check.fair(names + "ride x11 arch 1{claim s5;claim s0;raise f7;raise f0;glow 5;r0=x11.glow;}");
+        last.tick(1);
+        Check.due("staff", last.free(5) + " " + last.free(0) + " " + last.free(1), "8 8 9");
+        Check.due("flags", last.isUp(7) + " " + last.isUp(0) + " " + last.isUp(1), "true true false");
+        Check.due("x11", last.script(11, 4), 5);
+        Check.faults(2, names + "ride @f7 arch 1{}");
+        Check.faults(2, names + "ride @x10 arch 1{}");
+    }
+
+    private static void readsAgain() {
+        FairHouse house = new FairHouse();
+        String sum = "ride a arch 1{r0=" + Check.repeat("1+", 1990) + "1;}";
+        Check.due("a full tape", Check.read(house, sum), 0);
+        Check.due("another", Check.read(house, sum.replace("1+", "2+")), 0);
+        house.tick(1);
+        Check.due("its own sum", house.script(0, 4), 3981);
+        Check.due("power", Check.read(house, "power 5;ride a wheel 9 9 9{}ride b tail 9 9 9 a{}ride c star 9 9 9 9 9 9{}"), 0);
+        // Nothing is left of the fair before: its power, names, LEADER, PLACES.
+        Check.due("power again", Check.read(house, "power 6;ride a wheel 9 9 8{spin 9;}ride b wheel 9 3 7{spin 9;}"
+                + "ride c arch 1{}"), 0);
+        Check.due("power", house.count(3), 6);
+        house.tick(1);
+        Check.due("b has no LEADER", house.measure(1, 1), 3);
+        Check.due("places", house.measure(0, 10) + " " + house.measure(1, 10) + " " + house.measure(2, 10), "8 7 0");
+        Check.due("a NAME of before", Check.read(house, "ride d arch 1{r0=b.glow;}"), 3);
+        Check.due("power untold", Check.read(house, "ride d arch 1{}"), 0);
+        Check.due("power", house.count(3), 9999);
+        // A second power is none behind a FAULT, too.
+        Check.due("spoilt", Check.read(house, "power 5;x"), 1);
+        Check.due("power", Check.read(house, "power 5;ride d arch 1{}"), 0);
+    }
+
+    private static void deepInEitherBlock() {
+        // BLOCK 10 and 11 in an else and in an on, each beside a shallow first one.
+        String open = Check.repeat("loop{", 8);
+        String close = Check.repeat("}", 8);
+        Check.fair(WHEEL + "{" + open + "if 1<2{}else{}" + close + "}");
+        Check.fair(WHEEL + "{" + open + "guard{}on{}" + close + "}");
+        Check.faults(4, WHEEL + "{" + open + "if 1<2{}else{loop@{}}" + close + "}");
+        Check.faults(4, WHEEL + "{" + open + "guard{}on{loop@{}}" + close + "}");
+        Check.faults(4, WHEEL + "{" + open + "if 1<2{loop@{}}" + close + "}");
+        Check.faults(4, WHEEL + "{" + open + "guard{loop@{}}on{}" + close + "}");
     }
 }

@@ -47,6 +47,10 @@ public final class Part5RunningTest {
         orderOfATick();
         theLog();
         fourHundred();
+        firstRideOfAFormula();
+        wornByOne();
+        shedDrawsNothing();
+        slowOnes();
         Check.end();
     }
 
@@ -953,5 +957,50 @@ public final class Part5RunningTest {
         Check.throwsOnly("the first 400 are kept", Check.INDEX, () -> house.log(400, 0));
         Check.due("the 400th stays", house.log(399, 3), 400);
         Check.due("the first stays", house.log(0, 3), 1);
+    }
+
+    private static void firstRideOfAFormula() {
+        FairHouse house = Check.fair("ride a arch 1{until b.glow==7;r0=clock;}ride b arch 1{r0=a.speed;glow 7;}");
+        house.tick(3);
+        Check.due("b is asked", house.script(0, 4), 2);
+        FairHouse first = Check.fair("ride a arch 1{glow 9;}ride b arch 1{r0=a.glow;r1=b.glow;}");
+        first.tick(1);
+        Check.due("a is asked", Check.registers(first, 1), "9 0 0 0");
+        Check.due("not up f", holds("not up f"), false);
+        Check.due("not up f and", holds("not up f and 1<2"), false);
+        Check.due("not 1<2", holds("not 1<2"), false);
+    }
+
+    private static void wornByOne() {
+        // 1001 is above 1000: 20 ticks of 50 and one of 1.
+        FairHouse house = Check.fair("ride a wheel 1 49 1{spin 50;until wear>900;spin 1;until wear==1001;guard{spin 1;}on{r0=why;}}");
+        // 49, then 50 each: 949 in tick 19; 950, 951 and so on by 1.
+        house.tick(100);
+        Check.due("why", Check.registers(house, 0), "5 0 0 0");
+        Check.due("log", house.log(0, 2), 5);
+        FairHouse just = Check.fair("ride a wheel 1 49 1{spin 50;until wear>900;spin 1;until wear==1000;guard{spin 1;}on{r0=why;}}");
+        just.tick(100);
+        Check.due("why", Check.registers(just, 0), "0 0 0 0");
+    }
+
+    private static void shedDrawsNothing() {
+        // b shines, but too little to draw anything: it is not shed. c is over and has a GOAL: it is.
+        FairHouse house = Check.fair("power 9;ride a arch 100{glow 30;wait 9;}ride b arch 1{glow 99;wait 9;}"
+                + "ride c wheel 100 10 1{spin 50;}");
+        house.tick(1);
+        Check.due("log", Check.log(house), "/6 2 1 1/3 2 10 1/3 0 30 1/2 0 7 1");
+        Check.due("b", house.measure(1, 6), 99);
+        Check.due("c", Check.measures(house, 2), "10 0 0 0 0 0 0 10");
+        house.tick(1);
+        Check.due("c", Check.measures(house, 2), "0 0 0 0 0 0 0 10");
+    }
+
+    private static void slowOnes() {
+        FairHouse house = Check.fair("ride a tower 77 1 1{lift 9;}ride b star 1 10 1 1 1 1{lift 1;wait 1;spin 50;}");
+        house.tick(1);
+        Check.due("moved up by 1", Check.says(house, 0), "77 5 10 0 60");
+        house.tick(1);
+        // Its HEIGHT was 1 ahead of the tick.
+        Check.due("speed", house.measure(1, 1), 5);
     }
 }
