@@ -21,6 +21,7 @@ public final class Part2TextTest {
         ends();
         severalAtOneWord();
         longTexts();
+        fullToTheLastByte();
         longNames();
         allNames();
         readsAgain();
@@ -553,6 +554,28 @@ public final class Part2TextTest {
         third.tick(1);
         Check.due("product", third.script(0, 4), 0);
         Check.faults(3, "ride a arch 1{r0=" + Check.repeat("a.glow*", 560) + "@b.glow;}");
+    }
+
+    /** The last byte of a full tape: nothing is looked at behind it, nor behind the n bytes of a read. */
+    private static void fullToTheLastByte() {
+        for (String end : new String[] {"until 1<", "until 1!", "r0=1", "r0=a", "r0=clock", "stop;", "r0=-", "r0=(", "until 1=="}) {
+            String head = "ride a arch 1{";
+            String text = head + Check.repeat(" ", 4000 - head.length() - end.length()) + end;
+            int bad = end.endsWith("!") ? 1 : 0;
+            Check.faults(1, text.substring(0, 4000 - bad) + "@" + text.substring(4000 - bad));
+        }
+        Check.faults(1, "@" + Check.repeat("(", 4000));
+        Check.faults(1, "ride a arch 1{r0=@" + Check.repeat(")", 3983));
+        Check.faults(4, "ride a arch 1{r0=" + Check.repeat("-", 12) + "@" + Check.repeat("-", 3971));
+        FairHouse house = new FairHouse();
+        Check.feed(house, "ride a arch 1{until 1<=2;}");
+        Check.due("read", house.read(22), 1);
+        Check.due("place", house.fault(1), 22);
+        Check.feed(house, "ride a arch 1{r0=12;}abc");
+        Check.due("read", house.read(21), 0);
+        Check.feed(house, "ride a arch 1{}flags 1;");
+        Check.due("read", house.read(19), 1);
+        Check.due("place", house.fault(1), 19);
     }
 
     private static void longNames() {
