@@ -649,6 +649,13 @@ public final class Part2TextTest {
         Check.due("a NAME of before", Check.read(house, "ride d arch 1{r0=b.glow;}"), 3);
         Check.due("power untold", Check.read(house, "ride d arch 1{}"), 0);
         Check.due("power", house.count(3), 9999);
+        // A RIDE of before draws nothing and is not heard any more.
+        Check.due("three", Check.read(house, "ride a arch 9{}ride b ghost 9 99{glow 99;sound 99;}ride c ghost 9 99{sound 99;}"), 0);
+        house.tick(1);
+        Check.due("DRAWS", house.total(5), 98 + 49 + 49);
+        Check.due("one", Check.read(house, "ride a arch 9{}"), 0);
+        house.tick(1);
+        Check.due("DRAWS and NOISE", house.total(5) + " " + house.total(6), "0 0");
         // A second power is none behind a FAULT, too.
         Check.due("spoilt", Check.read(house, "power 5;x"), 1);
         Check.due("power", Check.read(house, "power 5;ride d arch 1{}"), 0);
