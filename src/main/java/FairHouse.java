@@ -1912,6 +1912,12 @@ public final class FairHouse {
                     stall(ride, answer);
                 }
             }
+            endIfOver(ride);
+        }
+
+        /** A SCRIPT that goes on, but has nothing next, is over by its end. */
+        private void endIfOver(Ride ride) {
+            Script script = ride.script;
             if (script.step == null && script.state == Script.GOING) {
                 script.end(Script.OVER);
                 fair.note(LOG_OVER, ride.index, fair.clock);
@@ -2146,6 +2152,8 @@ public final class FairHouse {
         private void stallFromOutside(Ride ride, int number) {
             if (ride.script.state == Script.GOING) {
                 stall(ride, number);
+                // Behind an empty on-BLOCK there may be nothing: it is over then in this tick.
+                endIfOver(ride);
             }
         }
     }

@@ -885,14 +885,38 @@ public final class Part5RunningTest {
         Check.due("next", Check.script(house, 0), "0 4 " + at(text, "r1=") + " 3");
         house.tick(1);
         Check.due("r1", house.script(0, 5), 2);
-        // With nothing behind it is over in the next tick's (2).
-        FairHouse last = Check.fair("ride a wheel 1 5 1{guard{spin 5;wait 9;}on{}}");
-        last.wind(99);
-        last.tick(1);
-        Check.due("goes on", Check.script(last, 0), "0 4 -1 3");
-        last.tick(1);
-        Check.due("over", Check.script(last, 0), "1 4 -1 3");
-        Check.due("log", Check.log(last), "/1 0 4 1/6 0 2 2");
+        overAtOnce();
+    }
+
+    /** A stall in (4) or (5) into an empty on-BLOCK with nothing behind it: the script is over in that tick. */
+    private static void overAtOnce() {
+        FairHouse wind = Check.fair("ride a wheel 1 5 1{guard{spin 5;wait 9;}on{}}");
+        wind.wind(99);
+        Check.due("wind", wind.tick(1), 2);
+        Check.due("over", Check.script(wind, 0), "1 4 -1 3");
+        Check.due("nothing more", wind.tick(3), 0);
+        Check.due("log", Check.log(wind), "/1 0 4 1/6 0 1 1");
+        // SHED: each ride's end stands behind its own stall; the last ride is the first one.
+        String shedText = "{guard{glow 100;wait 9;}on{}}";
+        FairHouse shed = Check.fair("power 1;ride a arch 9" + shedText + "ride b arch 9" + shedText);
+        Check.due("shed", shed.tick(1), 6);
+        Check.due("log", Check.log(shed), "/3 1 9 1/1 1 7 1/6 1 1 1/3 0 9 1/1 0 7 1/6 0 1 1");
+        // All BLOCKS that end there are left: guards round it, an if, a repeat in its last turn. Staff is kept.
+        String nestedText = "staff s 3;ride a wheel 1 5 1{claim s;"
+                + "guard{repeat 2{if 1==1{guard{spin 5;wait 1;wait 9;}on{}}}}on{r0=1;}}";
+        FairHouse nested = Check.fair(nestedText);
+        nested.wind(99);
+        nested.tick(1);
+        Check.due("a further turn is next", Check.script(nested, 0), "0 4 " + at(nestedText, "repeat") + " 7");
+        Check.due("then none", nested.tick(1), 2);
+        Check.due("over", Check.script(nested, 0), "1 4 -1 12");
+        Check.due("log", Check.log(nested), "/1 0 4 1/1 0 4 2/6 0 2 2");
+        Check.due("staff", nested.free(0), 2);
+        // What is over does not stall again, though it is shed.
+        FairHouse both = Check.fair("power 1;ride a comet 9 9 500{guard{lift 50;glow 99;wait 9;}on{}}");
+        both.wind(99);
+        Check.due("shed, then no wind", both.tick(1), 3);
+        Check.due("log", Check.log(both), "/3 0 504 1/1 0 7 1/6 0 1 1");
     }
 
     private static void orderOfATick() {
