@@ -2047,7 +2047,8 @@ public final class FairHouse {
 
         private int claim(Script script, Step step) {
             int staff = step.number;
-            if (staff < 0 || staff >= script.held.length || script.held[staff] >= HELD_MOST) {
+            if (staff < 0 || staff >= script.held.length || staff >= fair.staffFree.length
+                    || script.held[staff] >= HELD_MOST) {
                 return STAFF;
             }
             if (fair.staffFree[staff] < 1) {
@@ -2061,7 +2062,8 @@ public final class FairHouse {
 
         private int release(Script script, Step step) {
             int staff = step.number;
-            if (staff < 0 || staff >= script.held.length || script.held[staff] < 1) {
+            if (staff < 0 || staff >= script.held.length || staff >= fair.staffFree.length
+                    || script.held[staff] < 1) {
                 return STAFF;
             }
             script.held[staff]--;

@@ -25,6 +25,9 @@ public final class AnyCallsTest {
         for (int i = 0; i < 400; i++) {
             new AnyCallsTest(1000 + i).wildCalls();
         }
+        for (int i = 0; i < 400; i++) {
+            new AnyCallsTest(2000 + i).wildEnd();
+        }
         Check.end();
     }
 
@@ -77,8 +80,13 @@ public final class AnyCallsTest {
             if (ABLE[kind].indexOf('T') >= 0) {
                 leader = "x" + i;
             }
-            text.append("{loop{guard{").append(steps(ABLE[kind], 5, 0)).append("wait 1;}on{wait ").append(next(3));
-            text.append(";").append(steps(ABLE[kind], 2, 0)).append("}}}");
+            text.append(next(3) == 0 ? "{repeat 3{guard{" : "{loop{guard{");
+            text.append(steps(ABLE[kind], 5, 0)).append("wait 1;}on{");
+            // An empty on-BLOCK, too: a SCRIPT may end right behind a STALL.
+            if (next(3) > 0) {
+                text.append("wait ").append(next(3)).append(';').append(steps(ABLE[kind], 2, 0));
+            }
+            text.append("}}}");
         }
         return text.toString();
     }
@@ -182,7 +190,7 @@ public final class AnyCallsTest {
         int one = argument();
         int two = argument();
         try {
-            switch (next(15)) {
+            switch (next(17)) {
                 case 0:
                     return "" + house.fault(one);
                 case 1:
@@ -209,6 +217,9 @@ public final class AnyCallsTest {
                     return "" + house.total(one);
                 case 12:
                     return "" + house.log(one, two);
+                case 13:
+                case 14:
+                    return "" + house.tick(1);
                 default:
                     return "" + house.tick(one);
             }
@@ -229,6 +240,43 @@ public final class AnyCallsTest {
                     && within(house.measure(ride, 9), 0, 3000) && within(house.script(ride, 0), 0, 2)
                     && within(house.script(ride, 1), 0, 7);
             Check.due("within its bounds", good, true);
+            // Behind the first tick a SCRIPT has something next just as long as it goes on.
+            if (house.total(0) > 0) {
+                Check.due("goes on, or has nothing next", house.script(ride, 0) == 0, house.script(ride, 2) != FairHouse.NONE);
+            }
+        }
+    }
+
+    /** A SCRIPT that is STALLED from outside in its last BLOCKS, whatever these are: it goes on or is over. */
+    private void wildEnd() {
+        int kind = next(8);
+        String able = ABLE[kind];
+        String goal = able.indexOf('T') >= 0 ? "spin 90;" : able.indexOf('L') >= 0 ? "lift 90;" : "glow 90;";
+        String text = "guard{" + goal + "wait 9;}on{}";
+        int blocks = next(5);
+        for (int i = 0; i < blocks; i++) {
+            text = wrapped(text);
+        }
+        FairHouse house = Check.fair("power " + (next(2) == 0 ? 1 : 9999) + ";ride a " + RIDES[kind] + "{" + text + "}");
+        house.wind(next(2) == 0 ? 0 : 99);
+        for (int i = 0; i < 9; i++) {
+            house.tick(1);
+            bounds(house);
+        }
+    }
+
+    private String wrapped(String text) {
+        switch (next(5)) {
+            case 0:
+                return "repeat " + (1 + next(3)) + "{" + text + "}";
+            case 1:
+                return "if 1==1{" + text + "}";
+            case 2:
+                return "guard{" + text + "}on{r0=1;}";
+            case 3:
+                return "guard{r0=1/0;}on{" + text + "}";
+            default:
+                return next(2) == 0 ? text + "r1=r1+1;" : "r1=r1+1;" + text;
         }
     }
 
