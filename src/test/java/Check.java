@@ -47,6 +47,13 @@ final class Check {
         due(what + " throws", got, want.getName());
     }
 
+    /** The call throws exactly this class, and all stands as it was ahead of it. */
+    static void refuses(String what, Class<?> want, FairHouse house, Call call) {
+        String before = all(house);
+        throwsOnly(what, want, call);
+        due("unchanged behind " + what, all(house), before);
+    }
+
     static void end() {
         System.out.println(asked + " answers, " + wrong + " of them wrong");
         if (wrong > 0) {
@@ -145,6 +152,42 @@ final class Check {
             for (int what = 0; what < 4; what++) {
                 text.append(what == 0 ? "" : " ").append(house.log(i, what));
             }
+        }
+        return text.toString();
+    }
+
+    /** total(0 to 7): CLOCK, SERVED, GONE, WAITED, the LOG's count, DRAWS, the greatest NOISE, WIND. */
+    static String totals(FairHouse house) {
+        StringBuilder text = new StringBuilder();
+        for (int what = 0; what <= 7; what++) {
+            text.append(what == 0 ? "" : " ").append(house.total(what));
+        }
+        return text.toString();
+    }
+
+    /** Everything that can be asked; of a fair only while there is one. */
+    static String all(FairHouse house) {
+        StringBuilder text = new StringBuilder("fault " + house.fault(0) + " at " + house.fault(1) + " count");
+        for (int what = 0; what <= 4; what++) {
+            text.append(' ').append(house.count(what));
+        }
+        return house.count(0) == 0 ? text.toString() : text + ";" + allOfFair(house);
+    }
+
+    /** What open() takes back, and what it leaves. */
+    static String allOfFair(FairHouse house) {
+        StringBuilder text = new StringBuilder(totals(house)).append(log(house));
+        for (int ride = 0; ride < house.count(0); ride++) {
+            text.append('|').append(house.measure(ride, 0)).append(' ').append(measures(house, ride));
+            text.append(' ').append(house.measure(ride, 9)).append(' ').append(house.measure(ride, 10));
+            text.append(',').append(says(house, ride)).append(',').append(script(house, ride));
+            text.append(',').append(registers(house, ride));
+        }
+        for (int i = 0; i < house.count(1); i++) {
+            text.append(" s").append(house.free(i));
+        }
+        for (int i = 0; i < house.count(2); i++) {
+            text.append(house.isUp(i) ? " up" : " down");
         }
         return text.toString();
     }
