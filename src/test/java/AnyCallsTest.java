@@ -22,7 +22,7 @@ public final class AnyCallsTest {
         for (int i = 0; i < 400; i++) {
             new AnyCallsTest(i).wildText();
         }
-        for (int i = 0; i < 400; i++) {
+        for (int i = 0; i < 800; i++) {
             new AnyCallsTest(1000 + i).wildCalls();
         }
         for (int i = 0; i < 400; i++) {
@@ -61,13 +61,15 @@ public final class AnyCallsTest {
         String text = fairText();
         FairHouse house = Check.fair(text);
         FairHouse twin = Check.fair(text);
+        FairHouse opened = Check.fair(text);
+        answers(opened, 60);
+        opened.open();
         long kept = seed;
         String answers = run(house, 120);
         seed = kept;
-        Check.due("a twin of: " + text, run(twin, 120), answers);
-        house.open();
+        Check.due("a twin of: " + text, answers(twin, 120), answers);
         seed = kept;
-        Check.due("opened anew: " + text, run(house, 120), answers);
+        Check.due("opened anew: " + text, answers(opened, 120), answers);
     }
 
     private String fairText() {
@@ -162,10 +164,19 @@ public final class AnyCallsTest {
     }
 
     /** So many calls: all their answers, one behind the other. */
-    private String run(FairHouse house, int calls) {
+    private String answers(FairHouse house, int calls) {
         StringBuilder answers = new StringBuilder();
         for (int i = 0; i < calls; i++) {
             answers.append(call(house)).append(' ');
+        }
+        return answers.toString();
+    }
+
+    /** The same, with a look at all RIDES at times: an object is used for 512 calls at most. */
+    private String run(FairHouse house, int calls) {
+        StringBuilder answers = new StringBuilder();
+        for (int done = 0; done < calls; done += 40) {
+            answers.append(answers(house, 40));
             bounds(house);
         }
         return answers.toString();
