@@ -44,6 +44,7 @@ public final class EdgesOfCallsTest {
         scriptOfARide();
         freeOfStaff();
         flagsThereAre();
+        lastOfFullRows();
         setAnswersWhetherItWasTheOtherWay();
         totalOfWhat();
         logThatIsKept();
@@ -537,6 +538,37 @@ public final class EdgesOfCallsTest {
         }
         FairHouse house = running();
         Check.due("the flags", house.isUp(0) + " " + house.isUp(1) + " " + house.isUp(2), "true false true");
+    }
+
+    /** Twelve RIDES, six staff, eight flags: the last of each answers, one more is none. */
+    private static void lastOfFullRows() {
+        StringBuilder text = new StringBuilder();
+        for (int i = 0; i < 12; i++) {
+            text.append("ride x").append(i).append(" ghost ").append(i + 1).append(" 1{wait ").append(i).append(";}");
+        }
+        for (int i = 0; i < 6; i++) {
+            text.append("staff s").append(i).append(" ").append(i + 2).append(";");
+        }
+        for (int i = 0; i < 8; i++) {
+            text.append("flag f").append(i).append(";");
+        }
+        FairHouse house = Check.fair(text.toString());
+        Check.due("PLACES of the last RIDE", house.measure(11, 10), 12);
+        Check.due("LIMIT of the last RIDE", house.says(11, 4), 200);
+        Check.due("come to the last RIDE", house.come(11, 1), 1);
+        house.tick(10);
+        Check.due("scripts of the last two", house.script(10, 0) + " " + house.script(11, 0), "1 0");
+        Check.due("the last staff", house.free(5), 7);
+        Check.due("the last flag", house.set(7, true) + " " + house.isUp(7), "true true");
+        Check.due("the last of the LOG", house.log(10, 1), 10);
+        Check.throwsOnly("measure(12, 0)", Check.INDEX, () -> house.measure(12, 0));
+        Check.throwsOnly("says(12, 0)", Check.INDEX, () -> house.says(12, 0));
+        Check.throwsOnly("script(12, 0)", Check.INDEX, () -> house.script(12, 0));
+        Check.throwsOnly("come(12, 1)", Check.INDEX, () -> house.come(12, 1));
+        Check.throwsOnly("free(6)", Check.INDEX, () -> house.free(6));
+        Check.throwsOnly("isUp(8)", Check.INDEX, () -> house.isUp(8));
+        Check.throwsOnly("set(8, true)", Check.INDEX, () -> house.set(8, true));
+        Check.throwsOnly("log(11, 0)", Check.INDEX, () -> house.log(11, 0));
     }
 
     /** A flag is raised or lowered from outside: whether it was the other way. */
